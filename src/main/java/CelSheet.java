@@ -732,9 +732,11 @@ public final class CelSheet {
                     stop++;
                 }
             }
-            if (stop == begin) {
-                kind = begin < length ? SIGN : END;
-                stop = Math.min(begin + 1, length);
+            if (stop == begin && begin < length) {
+                kind = SIGN;
+                stop++;
+            } else if (stop == begin) {
+                kind = END;
             }
         }
 
@@ -915,21 +917,42 @@ public final class CelSheet {
             boolean sound = readFrames();
             // One round more than statements may come: the first too many ends it with its fault.
             for (int n = 1; n <= MOST_STATEMENTS && sound && tape.kind != Tape.END; n++) {
-                int statement = nextStatement();
-                int begin = tape.begin;
-                if (statement == NO_STATEMENT) {
-                    sound = fail(FAULT_FORM, begin);
-                } else if (scene.statements == MOST_STATEMENTS || isFull(statement)) {
-                    sound = fail(FAULT_MANY, begin);
-                } else {
-                    tape.advance();
-                    sound = readRest(statement);
+                switch (startStatement()) {
+                    case LAYER:
+                        sound = readLayer() && endStatement();
+                        break;
+                    case CEL:
+                        sound = readCel() && endStatement();
+                        break;
+                    case SLIDE:
+                        sound = readSlide() && endStatement();
+                        break;
+                    case HIDE:
+                        sound = readHide() && endStatement();
+                        break;
+                    default:
+                        sound = false;
                 }
             }
             if (sound && scene.layers == 0) {
                 sound = fail(FAULT_EMPTY, tape.length);
             }
             return sound;
+        }
+
+        /** Takes the word that a statement begins with; answers which one it is. */
+        private int startStatement() {
+            int statement = nextStatement();
+            if (statement == NO_STATEMENT) {
+                fail(FAULT_FORM, tape.begin);
+                return NO_STATEMENT;
+            }
+            if (scene.statements == MOST_STATEMENTS || isFull(statement)) {
+                fail(FAULT_MANY, tape.begin);
+                return NO_STATEMENT;
+            }
+            tape.advance();
+            return statement;
         }
 
         private int nextStatement() {
@@ -955,19 +978,6 @@ public final class CelSheet {
                     return scene.slides == MOST_SLIDES;
                 default:
                     return scene.hides == MOST_HIDES;
-            }
-        }
-
-        private boolean readRest(int statement) {
-            switch (statement) {
-                case LAYER:
-                    return readLayer() && endStatement();
-                case CEL:
-                    return readCel() && endStatement();
-                case SLIDE:
-                    return readSlide() && endStatement();
-                default:
-                    return readHide() && endStatement();
             }
         }
 

@@ -41,7 +41,9 @@ final class Due {
     }
 
     static int scene(CelSheet x, String text) {
-        tell(x, text);
+        if (!tell(x, text)) {
+            due("room on the tape for: " + text, 0, 1);
+        }
         return x.scene();
     }
 
