@@ -46,7 +46,7 @@ public final class CelSheet {
     private static final int FAULT_MANY = 4;
     private static final int FAULT_EMPTY = 5;
 
-    // Each word stands between blanks, so that a whole word can be told from a part of one.
+    // A blank ends each word, so that a whole word can be told from a part of one.
     private static final String LANGUAGE =
             "frames layer on loop stop cel at size ink slide from to right left down up hide blank swing x ";
 
@@ -1164,7 +1164,7 @@ public final class CelSheet {
                 return fail(FAULT_FORM, tape.begin);
             }
             int value = tape.number();
-            if (value < low || value > high || slot < 0 || slot >= BOX_FACTS) {
+            if (value < low || value > high) {
                 return fail(FAULT_NUMBER, tape.begin);
             }
             numbers[slot] = value;
