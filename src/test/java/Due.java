@@ -56,9 +56,16 @@ final class Due {
         return x;
     }
 
-    /** The text has a fault of the kind at the place. */
+    /** The text has a fault of the kind at the place, whatever was read ahead of it. */
     static void fault(String text, int kind, int place) {
         CelSheet x = new CelSheet();
+        fault(x, text, kind, place);
+        scene(x, "frames 9;layer b on 3=(1 2)x4;cel b 1 at 0 0 size 1 1 ink 1;hide b from 3 to 4;");
+        fault(x, text, kind, place);
+        fault(x, text, kind, place);
+    }
+
+    private static void fault(CelSheet x, String text, int kind, int place) {
         due("scene() of: " + text, scene(x, text), CelSheet.NONE);
         due("fault(0) of: " + text, x.fault(0), kind);
         due("fault(1) of: " + text, x.fault(1), place);
