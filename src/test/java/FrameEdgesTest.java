@@ -29,6 +29,7 @@ public final class FrameEdgesTest {
         takesOfMany();
         takesComeAgain();
         takesAreWhole();
+        takesOfOneRow();
         still();
         changes();
         savedOfAll();
@@ -37,11 +38,13 @@ public final class FrameEdgesTest {
         turnedPastTheEnd();
         best();
         bestOfEqual();
+        bestOfMany();
         without();
         doubled();
         doubledOdd();
         nothingIsDone();
         behindActs();
+        takesBehindActs();
         Due.end("FrameEdgesTest");
     }
 
@@ -361,6 +364,34 @@ public final class FrameEdgesTest {
         due("like(0, 1)", x.like(0, 1), 4);
     }
 
+    /** Two layers that give each of 96 frames an ink of its own at two places: one in ten frames, one in each. */
+    private static String each(int x, int y) {
+        StringBuilder b = new StringBuilder("frames96;layer c on10=blank 1-9;layer d on1=blank 1-9loop;");
+        for (int n = 1; n <= 9; n++) {
+            b.append("cel c").append(n).append("at").append(x).append(' ').append(y).append("size1 1ink").append(n).append(';');
+            b.append("cel d").append(n).append("at").append(x + 1).append(' ').append(y).append("size1 1ink").append(n).append(';');
+        }
+        return b.toString();
+    }
+
+    private static void takesOfOneRow() {
+        // Nothing but one row of places, or two columns of one, tells the frames apart.
+        for (int y = 0; y < 8; y++) {
+            for (int c = 0; c < 11; c += 5) {
+                CelSheet x = Due.sheet(each(c, y));
+                String what = " at " + c + ", " + y;
+                due("takes" + what, x.take(NONE), 96);
+                for (int k = 0; k < 96; k++) {
+                    due("take(" + k + ")" + what, x.take(k), k);
+                    due("like(" + k + ", 1)" + what, x.like(k, 1), 1);
+                }
+                due("take(96)" + what, x.take(96), NONE);
+                due("takes of every tenth" + what, x.without(1), 10);
+                due("takes of each of ten" + what, x.without(0), 10);
+            }
+        }
+    }
+
     // ---- promises 26 to 28
 
     private static void theStill(String drawings, int count, int first) {
@@ -523,6 +554,23 @@ public final class FrameEdgesTest {
         due("best behind its undo", x.best(1, 0), 1);
     }
 
+    private static void bestOfMany() {
+        // Each frame has a picture of its own with each of 22 drawings: however it is turned, 96 takes.
+        StringBuilder b = new StringBuilder(each(0, 7)).append("layer a on1=1-22loop;");
+        for (int d = 1; d <= 22; d++) {
+            b.append("cel a").append(d).append("at").append(d % 11 + 1).append(d < 11 ? " 0" : " 2").append("size1 2ink8;");
+        }
+        CelSheet x = Due.sheet(b.toString());
+        due("boxes of many", x.look(2), 40);
+        for (int layer = 0; layer < 3; layer++) {
+            due("best(" + layer + ", 0) of many", x.best(layer, 0), 0);
+            due("best(" + layer + ", 1) of many", x.best(layer, 1), 96);
+            due("turned(" + layer + ", 1) of many", x.turned(layer, 1), 96);
+            due("turned(" + layer + ", 95) of many", x.turned(layer, 95), 96);
+        }
+        due("takes of many", x.take(NONE), 96);
+    }
+
     // ---- promises 31 and 32
 
     private static void without() {
@@ -643,5 +691,67 @@ public final class FrameEdgesTest {
         pictures(x, "back", 0, 1, 0, 1);
         Due.scene(x, "frames 4;layer a on 1=1 2 1 2;cel a 1 at 0 0 size 1 1 ink 1;cel a 2 at 0 0 size 1 1 ink 1;");
         pictures(x, "another scene", 0, 0, 0, 0);
+    }
+
+    private static void takesAre(CelSheet x, String what, int... frames) {
+        due("takes behind " + what, x.take(NONE), frames.length);
+        due("saved(0) behind " + what, x.saved(0), x.look(0) - frames.length);
+        for (int k = 0; k < frames.length; k++) {
+            due("take(" + k + ") behind " + what, x.take(k), frames[k]);
+        }
+        due("take(-2) behind " + what, x.take(-2), NONE);
+        due("take(" + frames.length + ") behind " + what, x.take(frames.length), NONE);
+        due("take(95) behind " + what, x.take(95), NONE);
+    }
+
+    /** The takes go with each act, with undo, back and scene; what only asks leaves them. */
+    private static void takesBehindActs() {
+        String scene = "frames 5;layer a on 1=1 1 2 3 1;layer b on 1=blank" + PAIR + "cel a 3 at 0 0 size 1 1 ink 3;"
+                + "cel b 3 at 0 0 size 12 8 ink 4;";
+        CelSheet x = Due.sheet(scene);
+        takesAre(x, "scene", 0, 2, 3);
+        x.turn(0, 3);
+        takesAre(x, "turn", 0, 1, 4);
+        x.turned(0, 1);
+        x.turned(1, 4);
+        takesAre(x, "turned", 0, 1, 4);
+        x.best(0, 0);
+        x.best(1, 1);
+        takesAre(x, "best", 0, 1, 4);
+        x.without(0);
+        takesAre(x, "without", 0, 1, 4);
+        x.doubled(0, 2);
+        takesAre(x, "doubled", 0, 1, 4);
+        x.keep(0);
+        x.push(0, 0, 2);
+        takesAre(x, "push", 0, 3);
+        x.undo();
+        takesAre(x, "undo", 0, 1, 4);
+        x.pull(0, 0, 1);
+        takesAre(x, "pull", 0, 3);
+        x.twos(0);
+        takesAre(x, "twos", 0, 4);
+        x.expose(0, 0, 3, 0);
+        takesAre(x, "expose", 0, 4);
+        x.expose(1, 1, 3, 3);
+        takesAre(x, "a cover", 0, 1, 4);
+        x.expose(0, 2, 2, 3);
+        takesAre(x, "what is covered", 0, 1, 4);
+        x.raise(0);
+        takesAre(x, "raise", 0, 1, 2, 4);
+        x.expose(0, 5, 5, 3);
+        x.turn(0, 5);
+        x.raise(0);
+        takesAre(x, "what is refused", 0, 1, 2, 4);
+        Due.scene(x, scene + "?");
+        takesAre(x, "a scene with a fault", 0, 1, 2, 4);
+        x.back(0);
+        takesAre(x, "back", 0, 1, 4);
+        Due.scene(x, scene);
+        takesAre(x, "the same scene", 0, 2, 3);
+        Due.scene(x, Edge.LEAST);
+        takesAre(x, "the least scene", 0);
+        x.expose(0, 0, 0, 0);
+        takesAre(x, "a blank one", 0);
     }
 }
