@@ -78,7 +78,8 @@ final class Edge {
     /** All drawings of a layer as one text, to hold two states against each other. */
     static String drawings(CelSheet x, int layer) {
         StringBuilder b = new StringBuilder();
-        for (int f = 0; f < x.look(0); f++) {
+        int frames = x.look(0);
+        for (int f = 0; f < frames; f++) {
             b.append(x.at(layer, f)).append(' ');
         }
         return b.toString();

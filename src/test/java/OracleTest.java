@@ -8,10 +8,14 @@ import java.util.Random;
 
 /** Runs of chance calls, the same every time, on CelSheet and on the plain NaiveSheet. */
 public final class OracleTest {
-    private static final int RUNS = 400;
+    private static final int RUNS = 600;
     private static final int CALLS = 512;
     private static final int TEXTS = 30000;
     private static Random dice;
+    private static CelSheet x;
+    private static NaiveSheet y;
+    // Calls that x has had: what it answers behind the 512th is not promised.
+    private static int used;
 
     private OracleTest() {
     }
@@ -21,29 +25,49 @@ public final class OracleTest {
             dice = new Random(7000 + run);
             calls(run);
         }
-        CelSheet x = new CelSheet();
-        NaiveSheet y = new NaiveSheet();
+        renew();
         for (int n = 0; n < TEXTS; n++) {
             dice = new Random(90000 + n);
-            String text = n % 3 == 0 ? broken(sceneText(n % 40 == 0)) : words();
-            if (n % 100 == 0) {
-                x = new CelSheet();
-                y = new NaiveSheet();
-            }
-            text(x, y, text);
+            text(n % 3 == 0 ? broken(sceneText(n % 40 == 0)) : words());
         }
         Due.end("OracleTest");
     }
 
-    private static void text(CelSheet x, NaiveSheet y, String text) {
+    private static void renew() {
+        x = new CelSheet();
+        y = new NaiveSheet();
+        used = 0;
+    }
+
+    /** The calls that telling a text takes: feeds, end, a look at the tape and scene. */
+    private static int callsToTell(String text) {
+        return (text.length() + 19) / 20 + 3;
+    }
+
+    private static void tell(String text) {
+        used += callsToTell(text);
         feed(y, text);
         Due.tell(x, text);
         Due.due("scene() of: " + text, x.scene(), y.scene());
+    }
+
+    private static void text(String text) {
+        if (used + callsToTell(text) + 2 > CALLS) {
+            renew();
+        }
+        tell(text);
         Due.due("fault(0) of: " + text, x.fault(0), y.fault(0));
         Due.due("fault(1) of: " + text, x.fault(1), y.fault(1));
-        for (int l = 0; l < 6; l++) {
-            for (int f = 0; f < x.look(0); f++) {
+        used += 2;
+        int layers = y.look(1);
+        for (int l = 0; l < layers; l++) {
+            if (used + y.look(0) > CALLS) {
+                renew();
+                tell(text);
+            }
+            for (int f = 0; f < y.look(0); f++) {
                 Due.due("told(" + l + ", " + f + ") of: " + text, x.told(l, f), y.told(l, f));
+                used++;
             }
         }
     }
@@ -64,8 +88,7 @@ public final class OracleTest {
     }
 
     private static void calls(int run) throws Exception {
-        CelSheet x = new CelSheet();
-        NaiveSheet y = new NaiveSheet();
+        renew();
         List<Method> face = new ArrayList<>();
         for (Method m : CelSheet.class.getDeclaredMethods()) {
             if (Modifier.isPublic(m.getModifiers())) {
@@ -75,15 +98,16 @@ public final class OracleTest {
         face.sort(Comparator.comparing(Method::getName));
         String text = sceneText(run % 8 == 0);
         int ahead = dice.nextInt(4);
-        for (int n = 0; n < CALLS; n++) {
+        for (int n = 0; used < CALLS; n++) {
             if (n == ahead || dice.nextInt(120) == 0) {
                 if (dice.nextInt(3) == 0) {
                     text = sceneText(run % 8 == 0);
                 }
                 String told = dice.nextInt(4) == 0 && n != ahead ? broken(text) : text;
-                feed(y, told);
-                Due.tell(x, told);
-                Due.due("run " + run + ": scene() of " + told, x.scene(), y.scene());
+                if (used + callsToTell(told) > CALLS) {
+                    return;
+                }
+                tell(told);
                 continue;
             }
             Method m = face.get(dice.nextInt(face.size()));
@@ -96,6 +120,7 @@ public final class OracleTest {
                 a[i] = argument(m.getName(), i, y);
                 told.append(i == 0 ? "" : ", ").append(a[i]);
             }
+            used++;
             Object want = NaiveSheet.class.getMethod(m.getName(), m.getParameterTypes()).invoke(y, a);
             Due.due(told + ") of: " + text, number(m.invoke(x, a)), number(want));
         }

@@ -877,14 +877,15 @@ public final class TextEdgesTest {
         for (String text : new String[] {"", "a", " ", "abcdef", "frames 1;"}) {
             namedIs(new CelSheet(), text, NONE);
         }
-        CelSheet x = Due.sheet(Edge.FULL);
         String[] names = {"a", "b", "c", "d", "e", "abcdef"};
         for (int layer = 0; layer < names.length; layer++) {
+            CelSheet x = Due.sheet(Edge.FULL);
             namedIs(x, names[layer], layer);
             namedIs(x, " \n" + names[layer] + "\n ", layer);
             namedIs(x, padded(names[layer], 1200), layer);
             namedIs(x, " ".repeat(1200 - names[layer].length()) + names[layer], layer);
         }
+        CelSheet x = Due.sheet(Edge.FULL);
         for (String text : new String[] {"", " ", "\n", "f", "z", "ab", "abcde", "abcdeg", "abcdefg", "bcdef", "aa", "A",
             "a b", "a a", "a;", ";a", "a1", "1a", "1", "a\t", "\ta", "a\u0000", "abc def", "layer", "layer a", "x", "a\u00e1"}) {
             namedIs(x, text, NONE);
